@@ -314,10 +314,6 @@ public final class TieredLocks {
             setMode(t, r, wish);
             return GRANTED;
         }
-        return waitUnlessInCircle(t, r, wish);
-    }
-
-    private int waitUnlessInCircle(int t, int r, int wish) {
         // Whether there is a circle depends on where t would stand, so it stands there first.
         enterQueue(t, r, wish);
         if (isInCircle(t)) {
