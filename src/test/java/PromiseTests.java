@@ -1,33 +1,5 @@
 /** For each promise of the document, ordinary inputs, the edges that it names, and wrong inputs. */
-public final class PromiseTests {
-    private static final int FREE = 0, IS = 1, IX = 2, S = 3, SIX = 4, X = 5;
-    private static final int NONE = -1;
-    private static final int WAITS = 0, GRANTED = 1, COVERED = 2, KEPT = 3, DEADLOCK = 4;
-    private static final int IDLE = 0, ACTIVE = 1, WAITING = 2;
-    private static final int[] MODES = {FREE, IS, IX, S, SIX, X};
-    private static final int[] WRONG_TRANSACTIONS = {-1, 8, 9, Integer.MIN_VALUE, Integer.MAX_VALUE};
-    private static final int[] WRONG_RESOURCES = {-1, 34, 35, Integer.MIN_VALUE, Integer.MAX_VALUE};
-    private static final int[] WRONG_MODES = {-1, 0, 6, Integer.MIN_VALUE, Integer.MAX_VALUE};
-
-    private static final Class<IllegalArgumentException> ARGUMENT = IllegalArgumentException.class;
-    private static final Class<IllegalStateException> STATE = IllegalStateException.class;
-    private static final Class<UnsupportedOperationException> UNSUPPORTED = UnsupportedOperationException.class;
-
-    // The document's words as tables, row and column in the order of MODES.
-    private static final String[] TOGETHER = {"yyyyyy", "yyyyyn", "yyynnn", "yynynn", "yynnnn", "ynnnnn"};
-    private static final int[][] JOIN = {
-        {FREE, IS, IX, S, SIX, X},
-        {IS, IS, IX, S, SIX, X},
-        {IX, IX, IX, SIX, SIX, X},
-        {S, S, SIX, S, SIX, X},
-        {SIX, SIX, SIX, SIX, SIX, X},
-        {X, X, X, X, X, X}};
-    private static final int[] PARENT = {
-        -1, 0, 0, 0, 1, 1, 2, 2, 3, 3,
-        4, 4, 4, 4, 5, 5, 5, 5, 6, 6, 6, 6, 7, 7, 7, 7, 8, 8, 8, 8, 9, 9, 9, 9};
-
-    private static final Checks check = new Checks();
-
+public final class PromiseTests extends LockTest {
     public static void main(String[] args) {
         constants();
         newObject();
@@ -70,38 +42,6 @@ public final class PromiseTests {
         access();
         locks();
         check.finish();
-    }
-
-    // ---- making objects ----
-
-    private static TieredLocks begun(int transactions) {
-        TieredLocks x = new TieredLocks();
-        for (int t = 0; t < transactions; t++) {
-            x.begin();
-        }
-        return x;
-    }
-
-    /** Asks for each pair of a resource and a mode by t; all must be granted. */
-    private static void take(TieredLocks x, int t, int... pairs) {
-        for (int i = 0; i < pairs.length; i += 2) {
-            check.same("taking " + pairs[i] + " in mode " + pairs[i + 1], GRANTED, x.lock(t, pairs[i], pairs[i + 1]));
-        }
-    }
-
-    private static void takeAllAbove(TieredLocks x, int t, int r, int mode) {
-        if (PARENT[r] == NONE) {
-            return;
-        }
-        takeAllAbove(x, t, PARENT[r], mode);
-        x.lock(t, PARENT[r], mode);
-    }
-
-    private static void sameQueue(String what, TieredLocks x, int r, int... due) {
-        for (int k = 0; k < due.length; k++) {
-            check.same(what + ": queue(" + r + ", " + k + ")", due[k], x.queue(r, k));
-        }
-        check.same(what + ": behind the queue of " + r, NONE, x.queue(r, due.length));
     }
 
     // ---- promise 1 ----
