@@ -44,6 +44,7 @@ public final class FaceTests {
     public static void main(String[] args) throws IOException {
         publicMethods();
         otherMembers();
+        innerClasses();
         sourceWords();
         methodLengths();
         check.finish();
@@ -87,11 +88,25 @@ public final class FaceTests {
         for (Field field : TieredLocks.class.getDeclaredFields()) {
             if (!Modifier.isPrivate(field.getModifiers())) {
                 visible.add(field.getName());
+                check.isTrue("not public static final int: " + field, isConstantOfTheFace(field));
             }
             boolean shared = Modifier.isStatic(field.getModifiers());
             check.isTrue("static but not final: " + field, !shared || Modifier.isFinal(field.getModifiers()));
         }
         check.isTrue("the visible fields are " + visible, visible.equals(CONSTANTS));
+    }
+
+    private static boolean isConstantOfTheFace(Field field) {
+        int due = Modifier.PUBLIC | Modifier.STATIC | Modifier.FINAL;
+        return field.getModifiers() == due && field.getType() == int.class;
+    }
+
+    private static void innerClasses() {
+        for (Class<?> inner : TieredLocks.class.getDeclaredClasses()) {
+            int modifiers = inner.getModifiers();
+            boolean hidden = !Modifier.isPublic(modifiers) && !Modifier.isProtected(modifiers);
+            check.isTrue("neither hidden nor static: " + inner, hidden && Modifier.isStatic(modifiers));
+        }
     }
 
     private static void sourceWords() throws IOException {
